@@ -129,7 +129,11 @@ public final class HayVotes {
     }
 
     public int chooses(int cow) {
-        return hasCow(cow) ? now.bestStack(law, cow) : NONE;
+        if (!hasCow(cow)) {
+            return NONE;
+        }
+        now.forgetAmounts();
+        return now.bestStack(law, cow);
     }
 
     public int days(int n) {
@@ -137,6 +141,7 @@ public final class HayVotes {
             return NONE;
         }
         int hay = 0;
+        now.forgetAmounts();
         for (int day = 0; day < n; day++) {
             hay += now.passDay(law);
         }
@@ -148,6 +153,7 @@ public final class HayVotes {
         if (!isWithin(n, 1, MOST_DAYS) || !isWithin(what, 0, 6) && !asksStack) {
             return NONE;
         }
+        trial.forgetAmounts();
         trial.startRun(now);
         for (int day = 0; day < n; day++) {
             trial.passDay(law);
@@ -345,6 +351,7 @@ public final class HayVotes {
         int hay = 0;
         for (int day = 0; day < n; day++) {
             now.moveByChance();
+            now.forgetAmounts();
             hay += now.passDay(law);
         }
         return hay;
@@ -552,6 +559,9 @@ public final class HayVotes {
         private final int[] counts = new int[COLOURS];
         /** At which stack each cow ate on the last day; WORDS are held against it. */
         private final int[] ateAt = new int[MOST_COWS];
+        /** By cow and stack: the amount last found, and by what looks of the stack; NONE: forgotten. */
+        private final int[] amounts = new int[MOST_COWS * MOST_STACKS];
+        private final int[] amountLooks = new int[MOST_COWS * MOST_STACKS];
         private int stackCount;
         private int cowCount;
         private int saltStack = NONE;
@@ -620,14 +630,29 @@ public final class HayVotes {
             return standing;
         }
 
+        /**
+         * A campaign asks the same of cows and stacks again and again, so amounts are remembered.
+         * They hold while the law, the cows and the squares are as they were: then this is called.
+         */
+        void forgetAmounts() {
+            for (int i = 0; i < MOST_COWS * MOST_STACKS; i++) {
+                amounts[i] = NONE;
+            }
+        }
+
         int bestStack(Law law, int cow) {
             int best = NONE;
             int most = 0;
             for (int s = 0; s < stackCount; s++) {
                 if (stacks[s].stands && stacks[s].hay > 0) {
-                    int amount = law.wouldEat(this, cow, s);
-                    if (amount > most) {
-                        most = amount;
+                    int i = cow * MOST_STACKS + s;
+                    int looks = law.looksOf(stacks[s], isSalted(s));
+                    if (amounts[i] == NONE || amountLooks[i] != looks) {
+                        amounts[i] = law.wouldEat(this, cow, s);
+                        amountLooks[i] = looks;
+                    }
+                    if (amounts[i] > most) {
+                        most = amounts[i];
                         best = s;
                     }
                 }
@@ -745,8 +770,8 @@ public final class HayVotes {
     }
 
     /**
-     * A LAW as instructions: those of a clause's E, and behind them those of its C. Numbers lie on a
-     * pile; a comparison takes two of them and sets the truth, on which the jumps of & and | depend.
+     * A LAW as instructions: those of a clause's E, and behind them those of its C. Numbers are piled
+     * up; a comparison takes two of them and sets the truth, on which the jumps of & and | depend.
      */
     private static final class Law {
         private static final int MOST_TEXT = 200;
@@ -767,14 +792,20 @@ public final class HayVotes {
         private final int[] conditionStarts = new int[MOST_CLAUSES];
         private final int[] conditionEnds = new int[MOST_CLAUSES];
         private final int[] letters = new int[LETTER_COUNT];
+        /** All bits for each letter that an n or e asks for, else 0. */
+        private final int[] masks = new int[LETTER_COUNT];
         private final int[] pile = new int[PILE];
         private int size;
         private int clauseCount;
         private boolean truth;
+        private int value;
 
         void clear() {
             size = 0;
             clauseCount = 0;
+            for (int i = 0; i < LETTER_COUNT; i++) {
+                masks[i] = 0;
+            }
         }
 
         void add(int op, int arg) {
@@ -802,6 +833,17 @@ public final class HayVotes {
                 conditionEnds[clauseCount] = size;
                 clauseCount++;
             }
+            for (int i = valueStart; i < size && kind != 'g'; i++) {
+                if (ops[i] == LETTER) {
+                    masks[args[i]] = -1;
+                }
+            }
+        }
+
+        /** What days change of a stack, as far as n and e ask for it, in one number. */
+        int looksOf(Stack stack, boolean salted) {
+            int looks = (stack.hay & masks[0]) << 18 | (stack.heat & masks[3]) << 8;
+            return looks | (stack.clover & masks[1]) << 1 | (salted ? 1 : 0) & masks[5];
         }
 
         /** How much a cow would eat: n is asked last, as it matters only where e is above 0. */
@@ -846,56 +888,53 @@ public final class HayVotes {
             for (int i = 0; i < clauseCount; i++) {
                 if (kinds[i] == kind && reckon(conditionStarts[i], conditionEnds[i]) && truth) {
                     boolean known = reckon(valueStarts[i], conditionStarts[i]);
-                    return known ? Math.max(0, Math.min(most, pile[0])) : 0;
+                    return known ? Math.max(0, Math.min(most, value)) : 0;
                 }
             }
             return 0;
         }
 
-        /** False if it is refused; else an E lies at the pile's bottom, or the truth tells a C. */
+        /** False if it is refused; else value is what an E is, truth whether a C holds. */
         private boolean reckon(int from, int to) {
+            int top = 0;
             int lying = 0;
             int at = from;
             for (int step = 0; step < MOST_TEXT && at < to; step++) {
                 int op = ops[at];
                 int arg = args[at];
                 at++;
-                if (op == NUMBER || op == LETTER) {
-                    if (lying >= PILE) {
-                        return false;
-                    }
-                    pile[lying] = op == NUMBER ? arg : letters[arg];
-                    lying++;
-                    continue;
+                switch (op) {
+                    case NUMBER:
+                    case LETTER:
+                        if (lying >= PILE) {
+                            return false;
+                        }
+                        pile[lying] = top;
+                        lying++;
+                        top = op == NUMBER ? arg : letters[arg];
+                        continue;
+                    case '!': truth = !truth; continue;
+                    case '&': at = truth ? at : arg; continue;
+                    case '|': at = truth ? arg : at; continue;
+                    default: break;
                 }
-                if (op == '!') {
-                    truth = !truth;
-                    continue;
-                }
-                if (op == '&' || op == '|') {
-                    at = truth == (op == '|') ? arg : at;
-                    continue;
+                if (lying < 1 || top == 0 && (op == '/' || op == '%')) {
+                    return false;
                 }
                 lying--;
-                if (lying < 1) {
-                    return false;
-                }
-                int left = pile[lying - 1];
-                int right = pile[lying];
-                if (right == 0 && (op == '/' || op == '%')) {
-                    return false;
-                }
+                int left = pile[lying];
                 switch (op) {
-                    case '+': pile[lying - 1] = left + right; break;
-                    case '-': pile[lying - 1] = left - right; break;
-                    case '*': pile[lying - 1] = left * right; break;
-                    case '/': pile[lying - 1] = left / right; break;
-                    case '%': pile[lying - 1] = left % right; break;
-                    case '<': truth = left < right; lying = 0; break;
-                    case '>': truth = left > right; lying = 0; break;
-                    default: truth = left == right; lying = 0; break;
+                    case '+': top = left + top; break;
+                    case '-': top = left - top; break;
+                    case '*': top = left * top; break;
+                    case '/': top = left / top; break;
+                    case '%': top = left % top; break;
+                    case '<': truth = left < top; lying = 0; break;
+                    case '>': truth = left > top; lying = 0; break;
+                    default: truth = left == top; lying = 0; break;
                 }
             }
+            value = top;
             return true;
         }
     }
@@ -1126,6 +1165,7 @@ public final class HayVotes {
         /** The least pence, with the least row for it in row; NONE if it can't win. */
         int cheapest(Meadow now, Law law, int colour, int days) {
             int rows = 1 << 2 * placeCount;
+            trial.forgetAmounts();
             for (int pence = 0; pence <= MOST_EACH * placeCount; pence++) {
                 for (int number = 0; number < rows; number++) {
                     if (writeRow(number) == pence && wins(now, law, colour, days)) {
@@ -1174,6 +1214,8 @@ public final class HayVotes {
         private final int[] days = new int[MOST_WORDS];
         private final Meadow trial;
         private int wordCount;
+        /** Behind the last day that a word speaks of nothing can fail any more. */
+        private int lastDay;
         private int fitCount;
         private int firstStack;
         private int firstDay;
@@ -1185,12 +1227,14 @@ public final class HayVotes {
         /** Whether all of them speak of cows, stacks and days that there are. */
         boolean readFrom(Tape tape, int n, Meadow now) {
             wordCount = n;
+            lastDay = 0;
             boolean told = true;
             for (int i = 0; i < n; i++) {
                 int stack = tape.byteAt(3 * i + 1);
                 cows[i] = tape.byteAt(3 * i);
                 stacks[i] = stack == AT_NONE ? NONE : stack;
                 days[i] = tape.byteAt(3 * i + 2);
+                lastDay = Math.max(lastDay, days[i]);
                 told = told && cows[i] < now.cowCount && stacks[i] < now.stackCount && days[i] < DAYS;
             }
             return told;
@@ -1200,6 +1244,7 @@ public final class HayVotes {
             fitCount = 0;
             firstStack = NONE_FIT;
             firstDay = NONE_FIT;
+            trial.forgetAmounts();
             for (int s = 0; s < now.stackCount; s++) {
                 for (int day = 0; day < DAYS && now.stacks[s].stands; day++) {
                     if (fits(now, law, s, now.day + day)) {
@@ -1223,7 +1268,7 @@ public final class HayVotes {
         private boolean fits(Meadow now, Law law, int saltStack, int saltDay) {
             trial.startRun(now);
             trial.putSalt(saltStack, saltDay);
-            for (int day = 0; day < DAYS; day++) {
+            for (int day = 0; day <= lastDay && day < DAYS; day++) {
                 trial.passDay(law);
                 for (int i = 0; i < wordCount; i++) {
                     if (days[i] == day && trial.ateAt[cows[i]] != stacks[i]) {
@@ -1342,14 +1387,20 @@ public final class HayVotes {
             }
         }
 
-        /** From the top down, so that the sums below are still those of the day before. */
+        /**
+         * A sum comes from the k + 1 sums up to it of the day before. From the top down, so that
+         * those below are still of the day before.
+         */
         private void addDay(int k) {
+            long window = 0;
+            for (int sum = Math.max(0, top - k); sum <= top; sum++) {
+                window += ways[sum];
+            }
             for (int sum = top; sum >= 0; sum--) {
-                long total = 0;
-                for (int rise = 0; rise <= k && rise <= sum; rise++) {
-                    total += ways[sum - rise];
-                }
-                ways[sum] = total;
+                long before = ways[sum];
+                int entering = sum - k - 1;
+                ways[sum] = window;
+                window += (entering >= 0 ? ways[entering] : 0) - before;
             }
         }
 
