@@ -831,6 +831,22 @@ public final class PromisesTest {
     due("four seats", w.cut(2, 0), 4);
     due("8 to the left, 9 to the right", w.cut(2, 1), 9);
     due("4 above, 8 below", w.cut(2, 2), 5);
+    for (int turned = 0; turned < 2; turned++) {
+      // 4 has most votes of all, but neither at the one edge nor at the other: a cut at 10 would help it
+      HayVotes u = with("e10+t(1=1)");
+      for (int k = 0; k < 5; k++) {
+        u.stack(k, 5, k, 99, 0, 0);
+      }
+      int[] tastes = {4, 0, 0, 4, 4, 1, 1};
+      for (int c = 0; c < 7; c++) {
+        int edge = c < 3 ? 0 : 9;
+        u.cow(turned == 0 ? edge : 0, turned == 0 ? 0 : edge, false, 1);
+        u.taste(c, tastes[c], 1);
+      }
+      u.days(1);
+      due("a cut is at 1 to 9", u.cut(4, 0), 0);
+      due("1 has one", u.cut(1, 0), 1);
+    }
   }
 
   private static void foreseen() {
