@@ -632,7 +632,8 @@ public final class HayVotes {
 
         /**
          * A campaign asks the same of cows and stacks again and again, so amounts are remembered.
-         * They hold while the law, the cows and the squares are as they were: then this is called.
+         * They hold only while the law, the cows and the squares stay: each call that asks begins
+         * with this, and so does each day ahead of which a cow goes.
          */
         void forgetAmounts() {
             for (int i = 0; i < MOST_COWS * MOST_STACKS; i++) {
@@ -778,7 +779,18 @@ public final class HayVotes {
         private static final int MOST_CLAUSES = 14;
         private static final int MOST_EATEN = 999;
         private static final int MOST_HOTTER = 99;
+        /** In the order of the ten numbers below. */
         private static final String LETTERS = "hvwxkstdbu";
+        private static final int HAY = 0;
+        private static final int CLOVER = 1;
+        private static final int DAMP = 2;
+        private static final int HEAT = 3;
+        private static final int COLOUR = 4;
+        private static final int SALTED = 5;
+        private static final int TASTE = 6;
+        private static final int WAY = 7;
+        private static final int VOTES = 8;
+        private static final int HUNGER = 9;
         private static final int LETTER_COUNT = 10;
         private static final int PILE = 32;
         private static final int NUMBER = 1;
@@ -842,8 +854,8 @@ public final class HayVotes {
 
         /** What days change of a stack, as far as n and e ask for it, in one number. */
         int looksOf(Stack stack, boolean salted) {
-            int looks = (stack.hay & masks[0]) << 18 | (stack.heat & masks[3]) << 8;
-            return looks | (stack.clover & masks[1]) << 1 | (salted ? 1 : 0) & masks[5];
+            int looks = (stack.hay & masks[HAY]) << 18 | (stack.heat & masks[HEAT]) << 8;
+            return looks | (stack.clover & masks[CLOVER]) << 1 | (salted ? 1 : 0) & masks[SALTED];
         }
 
         /** How much a cow would eat: n is asked last, as it matters only where e is above 0. */
@@ -861,7 +873,7 @@ public final class HayVotes {
 
         int hotterBy(Meadow meadow, int stack) {
             lookAtStack(meadow, stack);
-            for (int i = 6; i < LETTER_COUNT; i++) {
+            for (int i = TASTE; i < LETTER_COUNT; i++) {
                 letters[i] = 0;
             }
             return firstValue('g', MOST_HOTTER);
@@ -869,19 +881,19 @@ public final class HayVotes {
 
         private void lookAtStack(Meadow meadow, int number) {
             Stack stack = meadow.stacks[number];
-            letters[0] = stack.hay;
-            letters[1] = stack.clover;
-            letters[2] = stack.damp;
-            letters[3] = stack.heat;
-            letters[4] = stack.colour;
-            letters[5] = meadow.isSalted(number) ? 1 : 0;
+            letters[HAY] = stack.hay;
+            letters[CLOVER] = stack.clover;
+            letters[DAMP] = stack.damp;
+            letters[HEAT] = stack.heat;
+            letters[COLOUR] = stack.colour;
+            letters[SALTED] = meadow.isSalted(number) ? 1 : 0;
         }
 
         private void lookAtCow(Cow cow, Stack stack) {
-            letters[6] = cow.tastes[stack.colour];
-            letters[7] = Math.abs(cow.x - stack.x) + Math.abs(cow.y - stack.y);
-            letters[8] = cow.votes;
-            letters[9] = cow.hunger;
+            letters[TASTE] = cow.tastes[stack.colour];
+            letters[WAY] = Math.abs(cow.x - stack.x) + Math.abs(cow.y - stack.y);
+            letters[VOTES] = cow.votes;
+            letters[HUNGER] = cow.hunger;
         }
 
         private int firstValue(int kind, int most) {
