@@ -1258,6 +1258,53 @@ public final class BoundsTest {
     due("HEAT", v.stackIs(0, 5), 2);
   }
 
+  /** Each letter that a DAY changes, or that stands beside one, at numbers that have other bits than those before. */
+  static void p10_manyDaysAreAsOneByOne() {
+    for (int clover : new int[] {0, 1, 63, 64, 96, 99}) {
+      for (int damp : new int[] {0, 1, 2, 33, 64, 99}) {
+        HayVotes v = daysOf(clover, damp);
+        HayVotes w = daysOf(clover, damp);
+        String place = " with CLOVER " + clover + ", DAMP " + damp;
+        int[] foreseen = new int[3];
+        for (int s = 0; s < 3; s++) {
+          foreseen[s] = v.run(6, 10 + s);
+        }
+        int hay = 0;
+        for (int day = 0; day < 6; day++) {
+          hay += w.days(1);
+        }
+        due("HAY eaten" + place, v.days(6), hay);
+        for (int s = 0; s < 3; s++) {
+          due("HAY of " + s + place, v.stackIs(s, 2), w.stackIs(s, 2));
+          due("run, HAY of " + s + place, foreseen[s], w.stackIs(s, 2));
+        }
+      }
+    }
+  }
+
+  private static HayVotes daysOf(int clover, int damp) {
+    HayVotes v = with("e300-h+x*3+v-s*50(1=1);gw(1=1)");
+    v.stack(0, 0, 0, 130, clover, 0);
+    v.stack(2, 0, 1, 130, clover, damp);
+    v.stack(4, 0, 2, 130, clover, damp / 2);
+    v.cow(0, 0, false, 3);
+    v.cow(0, 0, true, 1);
+    v.salt(1, 3);
+    return v;
+  }
+
+  static void p10_heatOfOneMoreIsSeenWithMuchClover() {
+    for (int clover = 0; clover <= 99; clover++) {
+      HayVotes v = with("e10+x*9+v*0(1=1);gw(1=1)");
+      v.stack(0, 0, 0, 100, clover, 0);
+      v.stack(2, 0, 1, 100, clover, 1);
+      v.cow(0, 0, false, 1);
+      due("days(3) with CLOVER " + clover, v.days(3), 3);
+      due("VOTES of the first DAY", v.votes(0), 1);
+      due("VOTES of the others", v.votes(1), 2);
+    }
+  }
+
   // ---- promise 11
 
   static void p11_days1To20() {

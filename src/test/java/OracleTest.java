@@ -129,7 +129,7 @@ public final class OracleTest {
       String[] laws = {"e10+v(1=1)", "e10+v*3-d(1=1)", "e9+v+t(1=1);g9*v(1=1)", "e[v+3]%5+1(1=1)", "e1+v%3(1=1);g99-w(1=1)",
           "ev(v>2);e1(1=1);gw(1=1)", "e5+v-h/9(1=1);n(s=1);g95+w%5(1=1)", "e50+v*2-d*3+t(1=1);n(v%4=d%4)", "e40-v*5+d(1=1)"};
       feedText(laws[random.nextInt(laws.length)]);
-      int clover = random.nextInt(3) == 0 ? 94 : 2;
+      int clover = new int[] {2, 62, 94}[random.nextInt(3)];
       int hay = pick(1, 30);
       for (int i = pick(2, 12); i > 0; i--) {
         int[] s = {pick(0, 9), pick(0, 9), pick(0, Math.max(1, colours - 2)), pick(0, hay), pick(clover, clover + 5), pick(0, 99)};
